@@ -455,6 +455,8 @@ public final class PromiseTests {
         fault("++a", 1, 1);
         fault("+-a", 1, 1);
         fault("a^", 1, 2);
+        fault("a^/", 1, 2);
+        fault("a^:", 1, 2);
         fault("a*^", 1, 3);
         fault("a^ 2", 1, 2);
         fault("a^2*", 1, 3);
