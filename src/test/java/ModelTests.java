@@ -102,7 +102,7 @@ public final class ModelTests {
     }
 
     private void write(String text) {
-        due("wipe()", "" + real.wipe(), model.wipe());
+        due("wipe()", () -> real.wipe(), () -> model.wipe());
         for (int i = 0; i < text.length(); i += 8) {
             int n = Math.min(8, text.length() - i);
             long bytes = below(2) == 0 ? 0 : -1L << 8 * (n - 1) << 8;
@@ -129,7 +129,7 @@ public final class ModelTests {
 
     private void drop() {
         int number = number();
-        due("drop(" + number + ")", "" + real.drop(number), model.drop(number));
+        due("drop(" + number + ")", () -> real.drop(number), () -> model.drop(number));
     }
 
     private void resemble() {
@@ -138,8 +138,8 @@ public final class ModelTests {
     }
 
     private void found() {
-        due("fault()", "" + real.fault(), model.fault());
-        due("place()", "" + real.place(), model.place());
+        due("fault()", () -> real.fault(), () -> model.fault());
+        due("place()", () -> real.place(), () -> model.place());
         int most = below(8) == 0 ? 51 : 3;
         for (int i = 0; i < most; i++) {
             hit(i);
@@ -149,17 +149,17 @@ public final class ModelTests {
 
     private void ask() {
         int what = below(3);
-        due("told(" + what + ")", "" + real.told(what), model.told(what));
-        due("about(" + what + ")", "" + real.about(what), model.about(what));
+        due("told(" + what + ")", () -> real.told(what), () -> model.told(what));
+        due("about(" + what + ")", () -> real.about(what), () -> model.about(what));
     }
 
     private void words() {
         for (int i = below(3) - 1, step = 1 + below(3); i < 12; i += step) {
-            due("word(" + i + ")", "" + real.word(i), model.word(i));
+            word(i);
         }
-        int size = real.told(1);
-        due("word(" + size + ")", "" + real.word(size), model.word(size));
-        due("word(" + (size - 1) + ")", "" + real.word(size - 1), model.word(size - 1));
+        int size = Integer.parseInt(model.told(1));
+        word(size);
+        word(size - 1);
     }
 
     private void wild() {
@@ -174,13 +174,13 @@ public final class ModelTests {
             case 5 -> hit(value);
             case 6 -> score(value);
             case 7 -> find(1 + below(50));
-            default -> due("word(" + value + ")", "" + real.word(value), model.word(value));
+            default -> word(value);
         }
         found();
     }
 
     private interface Answering {
-        long answer();
+        Object answer();
     }
 
     private static String answer(Answering call) {
@@ -192,31 +192,38 @@ public final class ModelTests {
     }
 
     private void feed(int n, long bytes) {
-        due("feed(" + n + ", " + bytes + ")", answer(() -> real.feed(n, bytes)), model.feed(n, bytes));
+        due("feed(" + n + ", " + bytes + ")", () -> real.feed(n, bytes), () -> model.feed(n, bytes));
     }
 
     private void put(int number) {
-        due("put(" + number + ")", answer(() -> real.put(number)), model.put(number));
+        due("put(" + number + ")", () -> real.put(number), () -> model.put(number));
+    }
+
+    private void word(int i) {
+        due("word(" + i + ")", () -> real.word(i), () -> model.word(i));
     }
 
     private void find(int k) {
-        due("find(" + k + ")", answer(() -> real.find(k)), model.find(k));
+        due("find(" + k + ")", () -> real.find(k), () -> model.find(k));
     }
 
     private void similar(int number, int k) {
-        due("similar(" + number + ", " + k + ")", answer(() -> real.similar(number, k)), model.similar(number, k));
+        due("similar(" + number + ", " + k + ")", () -> real.similar(number, k), () -> model.similar(number, k));
     }
 
     private void hit(int i) {
-        due("hit(" + i + ")", answer(() -> real.hit(i)), model.hit(i));
+        due("hit(" + i + ")", () -> real.hit(i), () -> model.hit(i));
     }
 
     private void score(int i) {
-        due("score(" + i + ")", answer(() -> real.score(i)), model.score(i));
+        due("score(" + i + ")", () -> real.score(i), () -> model.score(i));
     }
 
-    private void due(String call, String got, String want) {
-        calls++;
-        Check.due("run " + run + ", call " + calls + ", " + call, got, want);
+    /** What is asked after the last call that the document speaks of is left out. */
+    private void due(String call, Answering got, Answering want) {
+        if (calls < CALLS) {
+            calls++;
+            Check.due("run " + run + ", call " + calls + ", " + call, answer(got), answer(want));
+        }
     }
 }

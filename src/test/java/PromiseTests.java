@@ -273,8 +273,9 @@ public final class PromiseTests {
         RankedSearch x = new RankedSearch();
         Check.put(x, 0, "rare");
         int[] digits = {1, 2, 2, 3, 3, 3, 3, 4};
+        x.wipe();
         for (int n = 1; n <= 120; n++) {
-            Check.tape(x, "rare");
+            Check.feed(x, "rare");
             int due = n <= 8 ? digits[n - 1] : n < 16 ? 4 : n < 32 ? 5 : n < 64 ? 6 : 7;
             Check.due("8: rarity of 1 in " + n, x.about(1), due);
             x.wipe();
