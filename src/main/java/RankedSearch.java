@@ -215,15 +215,21 @@ public final class RankedSearch {
                 return false;
             }
             for (int i = 0; i < n; i++) {
-                bytes[length + i] = (byte) (lowestFirst >> 8 * i);
+                add((byte) (lowestFirst >> 8 * i));
             }
-            length += n;
             return true;
+        }
+
+        private void add(byte b) {
+            if (length >= 0 && length < bytes.length) {
+                bytes[length] = b;
+                length++;
+            }
         }
 
         /** The byte at a place, 0 to 255; NONE outside the tape. */
         int byteAt(int i) {
-            return i >= 0 && i < length ? bytes[i] & 255 : NONE;
+            return i >= 0 && i < length && i < bytes.length ? bytes[i] & 255 : NONE;
         }
 
         /** The first place from this one on that has a letter; the length if none has. */
@@ -369,7 +375,9 @@ public final class RankedSearch {
             }
             Word fresh = takeWord();
             fresh.begin(letters);
-            words.add(place, fresh);
+            if (place >= 0 && place <= words.size()) {
+                words.add(place, fresh);
+            }
             return fresh;
         }
 
@@ -632,12 +640,13 @@ public final class RankedSearch {
             if (!signed && !Letters.isLetter(b)) {
                 return takeBlank(b);
             }
-            if (count >= terms.length) {
+            Term next = nextTerm();
+            if (next == null) {
                 return TERM_TOO_MANY;
             }
-            term = terms[count];
-            count++;
+            term = next;
             term.begin();
+            count++;
             if (!signed) {
                 return takeLetter(b);
             }
@@ -645,6 +654,11 @@ public final class RankedSearch {
             term.unwanted = b == '-';
             state = SIGN;
             return NO_FAULT;
+        }
+
+        /** The term that is free as yet; null if there is none left. */
+        private Term nextTerm() {
+            return count >= 0 && count < terms.length ? terms[count] : null;
         }
 
         private int takeLetter(int b) {

@@ -24,6 +24,7 @@ public final class EdgeTests {
         promise5Numbers();
         promise5SharedWords();
         promise5EmptyAndFull();
+        promise5AnyOrder();
         promise6Kinds();
         promise6EmptyAndFull();
         promise7EmptyAndFull();
@@ -34,6 +35,7 @@ public final class EdgeTests {
         promise9Counts();
         promise9FaultFindsNothing();
         promise9FindsAnew();
+        promise9ReadsTermsAnew();
         promise10And11Last();
         promise12Counts();
         promise12Documents();
@@ -231,11 +233,11 @@ public final class EdgeTests {
 
     private static void promise5SharedWords() {
         RankedSearch x = new RankedSearch();
-        Check.put(x, 1, "a b b");
-        Check.put(x, 2, "b c");
-        Check.put(x, 3, "b");
+        Check.put(x, 1, "a b");
+        Check.put(x, 2, "b b b c");
+        Check.put(x, 3, "b b");
         Check.tape(x, "b");
-        int[] together = {4, 2, 1, 0};
+        int[] together = {6, 5, 2, 0};
         int[] holders = {3, 2, 1, 0};
         int[] different = {3, 2, 1, 0};
         for (int gone = 0; gone <= 3; gone++) {
@@ -256,8 +258,33 @@ public final class EdgeTests {
             Check.due("5: documents", x.told(0), i);
         }
         Check.due("5: words", x.told(2), 0);
+        Check.due("5: different words", x.told(1), 0);
         Check.due("5: room again", x.put(9999), 2);
         Check.due("5: different words again", x.told(1), 2);
+    }
+
+    /** Documents with the same word go in every order, come again with other words, and go once more. */
+    private static void promise5AnyOrder() {
+        int[][] orders = {{0, 1, 2, 3}, {3, 2, 1, 0}, {1, 2, 0, 3}, {2, 1, 3, 0}, {0, 3, 1, 2}, {3, 0, 2, 1}};
+        for (int[] order : orders) {
+            RankedSearch x = alike(4, "a b");
+            String left = "0:128 1:128 2:128 3:128";
+            for (int number : order) {
+                x.drop(number);
+                left = left.replace(number + ":128", "").replace("  ", " ").trim();
+                Check.find(x, "a", 5);
+                Check.due("5: without " + number, Check.found(x).replaceAll(":\\d+", ":128"), left);
+            }
+            Check.due("5: no words are left", x.told(1), 0);
+            for (int number : order) {
+                Check.put(x, number, "b c");
+            }
+            for (int number : order) {
+                Check.due("5: drop(" + number + ") again", x.drop(number), true);
+            }
+            Check.due("5: no words are left again", x.told(1), 0);
+            Check.due("5: none is found", Check.find(x, "b c", 5), 0);
+        }
     }
 
     private static void promise6Kinds() {
@@ -424,6 +451,25 @@ public final class EdgeTests {
         Check.due("9: the tape is the query of then", Check.find(x, "a", 2), 2);
         Check.feed(x, "a");
         Check.due("9: it goes on behind it", x.find(2), 0);
+    }
+
+    /** Nothing of a query counts in the next one: not its signs, its stars, its weights, its words. */
+    private static void promise9ReadsTermsAnew() {
+        RankedSearch x = new RankedSearch();
+        Check.put(x, 1, "a b");
+        Check.put(x, 2, "ab");
+        Check.put(x, 3, "b");
+        String[] before = {"+ab*^9 +b", "-a -b", "a* a*", "abcdefghijkl", "+c", "a^8", "+a* -b^2 c", "-a^", "+b -*"};
+        for (String query : before) {
+            Check.find(x, query, 5);
+            Check.find(x, "a b", 5);
+            Check.due("9: a b after " + query, Check.found(x), "1:384 3:128");
+            Check.find(x, query, 5);
+            x.similar(3, 5);
+            Check.due("12: like 3 after " + query, Check.found(x), "1:128");
+            Check.find(x, query, 5);
+            Check.due("9: nothing after " + query, Check.find(x, "", 5), 0);
+        }
     }
 
     private static void promise10And11Last() {
