@@ -2,10 +2,11 @@ import java.lang.management.ManagementFactory;
 
 /**
  * The dearest runs of 512 calls stay far below the room that all calls of a run live in:
- * 7.3 million fields and elements, so some 29 million bytes at least.
+ * 7.3 million fields and elements, so some 29 million bytes at least. The limit here is so
+ * low that what put and drop set free has to be used again.
  */
 public final class RoomTests {
-    private static final long MOST_BYTES = 6_000_000;
+    private static final long MOST_BYTES = 1_500_000;
     private static final int CALLS = 512;
 
     private RoomTests() {
