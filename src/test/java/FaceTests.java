@@ -17,6 +17,7 @@ public final class FaceTests {
     private static final int MOST_LINES = 60;
     private static final int MOST_CLASSES = 12;
     private static final int MOST_FIELDS = 20;
+    private static final int MOST_PARAMETERS = 7;
 
     private FaceTests() {
     }
@@ -78,10 +79,16 @@ public final class FaceTests {
                 own += fixed ? 0 : 1;
             }
             Check.due(one + " has few fields", own <= MOST_FIELDS, true);
-            for (Method method : one.getDeclaredMethods()) {
-                Check.due(method + " is no private name of the face",
-                    Modifier.isPrivate(method.getModifiers()) && faceNames.contains(method.getName()), false);
-            }
+            ownMethods(one, faceNames);
+        }
+        ownMethods(RankedSearch.class, faceNames);
+    }
+
+    private static void ownMethods(Class<?> one, TreeSet<String> faceNames) {
+        for (Method method : one.getDeclaredMethods()) {
+            Check.due(method + " is no private name of the face",
+                Modifier.isPrivate(method.getModifiers()) && faceNames.contains(method.getName()), false);
+            Check.due(method + " has few parameters", method.getParameterCount() <= MOST_PARAMETERS, true);
         }
     }
 
